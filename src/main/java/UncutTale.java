@@ -23,6 +23,8 @@ public final class UncutTale {
     private static final int LONGEST_ROW = 60;
     private static final int LONGEST_TAPE = 700;
     private static final int AIRING = 10;
+    private static final int KNIFE = 0;
+    private static final int AIR = 1;
     private static final int ODDS_OF = 10;
     private static final int SEWN_GETS = 4;
 
@@ -656,7 +658,11 @@ public final class UncutTale {
             return NO_GAME;
         }
         trial.begin(NONE);
-        return uncleWorth(uncleChoice());
+        int most = uncleWorth(0);
+        for (int part = 1; part < story.parts; part++) {
+            most = Math.max(most, uncleWorth(part));
+        }
+        return most;
     }
 
     public int opens() {
@@ -664,7 +670,16 @@ public final class UncutTale {
             return NO_SUCH;
         }
         trial.begin(NONE);
-        return uncleChoice();
+        int found = NONE;
+        int most = 0;
+        for (int part = 0; part < story.parts; part++) {
+            int worth = uncleWorth(part);
+            if (found == NONE || worth > most) {
+                most = worth;
+                found = part;
+            }
+        }
+        return found;
     }
 
     public int replies(int part) {
@@ -752,7 +767,7 @@ public final class UncutTale {
         if (refusal != 0) {
             return refusal;
         }
-        story.addAct(true, part, year);
+        story.addAct(KNIFE, part, year);
         forgetAnswers();
         return current().readInAll();
     }
@@ -762,7 +777,7 @@ public final class UncutTale {
         if (refusal != 0) {
             return refusal;
         }
-        story.addAct(false, part, year);
+        story.addAct(AIR, part, year);
         forgetAnswers();
         return current().stiffness(part, story.years);
     }
@@ -954,7 +969,7 @@ public final class UncutTale {
         }
         int number = story.knives;
         for (int a = 0; a < story.acts; a++) {
-            if (story.actCuts[a]) {
+            if (story.actKind[a] == KNIFE) {
                 if (opensAnew(story.actPart[a], story.actYear[a], credited)) {
                     credited |= 1 << story.actPart[a];
                     bits |= 1 << number;
@@ -1027,23 +1042,7 @@ public final class UncutTale {
         return trial.readInAll();
     }
 
-    private int uncleChoice() {
-        int found = NONE;
-        int most = 0;
-        for (int part = 0; part < story.parts; part++) {
-            int worth = uncleWorth(part);
-            if (found == NONE || worth > most) {
-                most = worth;
-                found = part;
-            }
-        }
-        return found;
-    }
-
     private int uncleWorth(int part) {
-        if (!story.hasPart(part)) {
-            return NO_GAME;
-        }
         int reply = earChoice(part);
         trial.unfoldBy(1 << part, reply == NONE ? 0 : 1 << reply);
         return trial.readIn(0) - trial.readIn(1);
@@ -1272,32 +1271,15 @@ public final class UncutTale {
             while (start < tape.length && (tape.at(start) == ' ' || tape.at(start) == '\n')) {
                 start++;
             }
-            stop = start;
-            if (start >= tape.length) {
-                kind = END;
-            } else if (isLetter(tape.at(start))) {
-                kind = WORD;
-                skipWord();
-            } else if (isDigit(tape.at(start))) {
-                kind = NUMBER;
-                skipNumber();
-            } else {
-                kind = tape.at(start) == ';' ? SIGN : NO_TOKEN;
-                stop = start + 1;
-            }
-        }
-
-        private void skipWord() {
-            while (stop < tape.length && isLetter(tape.at(stop))) {
+            kind = kindOf(tape.at(start));
+            stop = kind == END ? start : start + 1;
+            boolean isLong = kind == WORD || kind == NUMBER;
+            while (isLong && stop < tape.length && kindOf(tape.at(stop)) == kind) {
                 stop++;
             }
-        }
-
-        private void skipNumber() {
             value = 0;
-            while (stop < tape.length && isDigit(tape.at(stop))) {
-                value = Math.min(ABOVE_ALL_BOUNDS, value * 10 + tape.at(stop) - '0');
-                stop++;
+            for (int i = start; kind == NUMBER && i < stop; i++) {
+                value = Math.min(ABOVE_ALL_BOUNDS, value * 10 + tape.at(i) - '0');
             }
         }
 
@@ -1313,12 +1295,17 @@ public final class UncutTale {
             return true;
         }
 
-        private static boolean isLetter(int sign) {
-            return sign >= 'a' && sign <= 'z';
-        }
-
-        private static boolean isDigit(int sign) {
-            return sign >= '0' && sign <= '9';
+        private static int kindOf(int sign) {
+            if (sign >= 'a' && sign <= 'z') {
+                return WORD;
+            }
+            if (sign >= '0' && sign <= '9') {
+                return NUMBER;
+            }
+            if (sign == ';') {
+                return SIGN;
+            }
+            return sign == NONE ? END : NO_TOKEN;
         }
     }
 
@@ -1331,7 +1318,7 @@ public final class UncutTale {
         final int[] foldTo = new int[MOST_FOLDS];
         final int[] knifePart = new int[MOST_KNIVES];
         final int[] knifeYear = new int[MOST_KNIVES];
-        final boolean[] actCuts = new boolean[MOST_ACTS];
+        final int[] actKind = new int[MOST_ACTS];
         final int[] actPart = new int[MOST_ACTS];
         final int[] actYear = new int[MOST_ACTS];
         int years;
@@ -1370,7 +1357,7 @@ public final class UncutTale {
             System.arraycopy(other.foldTo, 0, foldTo, 0, MOST_FOLDS);
             System.arraycopy(other.knifePart, 0, knifePart, 0, MOST_KNIVES);
             System.arraycopy(other.knifeYear, 0, knifeYear, 0, MOST_KNIVES);
-            System.arraycopy(other.actCuts, 0, actCuts, 0, MOST_ACTS);
+            System.arraycopy(other.actKind, 0, actKind, 0, MOST_ACTS);
             System.arraycopy(other.actPart, 0, actPart, 0, MOST_ACTS);
             System.arraycopy(other.actYear, 0, actYear, 0, MOST_ACTS);
         }
@@ -1400,9 +1387,9 @@ public final class UncutTale {
             }
         }
 
-        void addAct(boolean cuts, int part, int year) {
+        void addAct(int kind, int part, int year) {
             if (acts < MOST_ACTS) {
-                actCuts[acts] = cuts;
+                actKind[acts] = kind;
                 actPart[acts] = part;
                 actYear[acts] = year;
                 acts++;
@@ -1505,7 +1492,7 @@ public final class UncutTale {
             }
             Arrays.fill(airings, 0);
             for (int a = 0; a < story.acts; a++) {
-                if (!story.actCuts[a]) {
+                if (story.actKind[a] == AIR) {
                     airings[story.actYear[a] * MOST_PARTS + story.actPart[a]]++;
                 }
             }
@@ -1520,7 +1507,7 @@ public final class UncutTale {
                 }
             }
             for (int a = 0; a < story.acts; a++) {
-                if (story.actCuts[a]) {
+                if (story.actKind[a] == KNIFE) {
                     toCut[story.actYear[a]] |= 1 << story.actPart[a];
                 }
             }
@@ -1577,12 +1564,11 @@ public final class UncutTale {
         }
 
         int stiffness(int part, int year) {
-            follow(part, story.toldStiff[part], year);
-            return trace[year];
+            return follow(part, story.toldStiff[part], year);
         }
 
-        /** Leaves in trace how STIFF a PART is up to a YEAR, had it been told as STIFF as given. */
-        void follow(int part, int told, int lastYear) {
+        /** How STIFF a PART is in a YEAR (and, in trace, up to it), had it been told as STIFF as given. */
+        int follow(int part, int told, int lastYear) {
             int stiff = told;
             trace[0] = stiff;
             for (int year = 0; year < lastYear && year < MOST_YEARS; year++) {
@@ -1594,6 +1580,7 @@ public final class UncutTale {
                 }
                 trace[year + 1] = stiff;
             }
+            return stiff;
         }
 
         int aired(int part, int stiff, int year) {
@@ -1601,16 +1588,12 @@ public final class UncutTale {
         }
 
         int waited(int part, int stiff, int opened) {
-            return Math.min(MOST_STIFF, stiff + growth(part, stiff, opened));
-        }
-
-        private int growth(int part, int stiff, int opened) {
             int tires = story.tires[part];
             switch (law) {
-                case 1: return tires + Integer.bitCount(near[part] & opened);
-                case 2: return tires + stiff;
-                case 3: return (near[part] & ~opened) == 0 ? tires : 0;
-                default: return tires;
+                case 1: return Math.min(MOST_STIFF, stiff + tires + Integer.bitCount(near[part] & opened));
+                case 2: return Math.min(MOST_STIFF, stiff + tires + stiff);
+                case 3: return (near[part] & ~opened) == 0 ? Math.min(MOST_STIFF, stiff + tires) : stiff;
+                default: return Math.min(MOST_STIFF, stiff + tires);
             }
         }
 
@@ -1619,7 +1602,7 @@ public final class UncutTale {
             if (year == NONE) {
                 return NONE;
             }
-            return Math.max(0, story.charm[part] - stiffness(part, year + 1));
+            return Math.max(0, story.charm[part] - follow(part, story.toldStiff[part], year + 1));
         }
 
         int readIn(int year) {
@@ -1642,7 +1625,7 @@ public final class UncutTale {
             if (hasBit(open[year], part)) {
                 return NONE;
             }
-            return Math.max(0, story.charm[part] - stiffness(part, year));
+            return Math.max(0, story.charm[part] - follow(part, story.toldStiff[part], year));
         }
     }
 
@@ -1740,7 +1723,9 @@ public final class UncutTale {
                 long weight = weightOf(come);
                 if (weight > 0) {
                     course.unfoldWith(come);
-                    add(weight);
+                    whole += weight;
+                    readWeight += weight * course.readInAll();
+                    addToOpen(weight);
                 }
             }
         }
@@ -1753,9 +1738,7 @@ public final class UncutTale {
             return weight;
         }
 
-        private void add(long weight) {
-            whole += weight;
-            readWeight += weight * course.readInAll();
+        private void addToOpen(long weight) {
             int open = course.openIn(story.years);
             for (int part = 0; part < story.parts; part++) {
                 openWeight[part] += hasBit(open, part) ? weight : 0;
