@@ -104,7 +104,7 @@ public final class SetsTest {
         UncutTale x = Due.told(STEEP);
         x.row(0, 1, 3);
         int[][] due = {{0, 33, 1, 33, 33}, {1, 99, 16, 45, 60}, {2, 99, 43, 18, 60}, {3, 99, 56, 5, 60},
-            {3, 98, 0, -1, -1}, {3, 95, 1, 4, 4}, {0, 61, 0, -1, -1}};
+            {3, 98, 0, -1, -1}, {3, 95, 1, 4, 4}, {0, 60, 1, 60, 60}, {0, 0, 1, 0, 0}, {0, 61, 0, -1, -1}};
         for (int[] d : due) {
             x.write(0, 1, d[0]);
             x.write(0, 2, d[1]);
@@ -201,6 +201,11 @@ public final class SetsTest {
         DUE.is("without fold 1 part 1 opens a year sooner", y.slit(), 1);
         DUE.is("no fold is too many",
             Due.told("tale years 2 law 0 odds 0;part charm 9 tires 1;part charm 9 tires 1;fold 0 1;knife 0 at 0;").slit(), -1);
+        DUE.is("as much without as with", Due.told("tale years 3 law 0 odds 0;part charm 9 tires 1;part charm 9 tires 0;"
+            + "part charm 9 tires 0;fold 0 1;fold 0 2;knife 1 at 2;knife 2 at 2;").slit(), -1);
+        // folds 0 and 1 make part 2 stiffer by 1 each; without fold 2 it opens sooner, but part 3 does not
+        DUE.is("the first of several", Due.told("tale years 2 law 1 odds 0;part charm 0 tires 0;part charm 0 tires 0;"
+            + "part charm 9 tires 0;part charm 5 tires 0;fold 2 0;fold 2 1;fold 2 3;knife 0 at 0;knife 1 at 0;knife 2 at 1;").slit(), 0);
         // an act's knife is none that was told, and stays
         UncutTale z = Due.told("tale years 2 law 0 odds 0;part charm 9 tires 0 stiff 5;knife 0 at 0;knife 0 at 1;");
         z.air(0, 1);

@@ -70,6 +70,9 @@ public final class TextTest {
         DUE.is("another tale in its place", x.tale(), 0);
         DUE.is("none is left", x.count(3), 0);
         DUE.is("nor a year", x.open(0), -2);
+        for (int what = 0; what <= 9; what++) {
+            DUE.is("nothing to count", x.count(what), 0);
+        }
         x = Due.told(HEAD + "part charm 5 tires 1;");
         x.knife(0, 0);
         Due.put(x, HEAD + "nonsense");
@@ -116,6 +119,13 @@ public final class TextTest {
         fault(HEAD + "12", 1, 26);
         fault(HEAD + "parts", 1, 26);
         fault(HEAD + "par t", 1, 26);
+        fault(HEAD + "cart charm 1 tires 1;", 1, 26);
+        fault(HEAD + "pars charm 1 tires 1;", 1, 26);
+        fault(HEAD + "partz charm 1 tires 1;", 1, 26);
+        fault(HEAD + "parta charm 1 tires 1;", 1, 26);
+        fault("talz years 1 law 0 odds 0;", 1, 0);
+        fault(HEAD + "part charm 1:", 1, 38);
+        fault(HEAD + "part charm 1/", 1, 38);
     }
 
     private static void faultsOfNumbers() {

@@ -64,6 +64,9 @@ public final class YearsTest {
         UncutTale y = Due.told("tale years 4 law 0 odds 0;part charm 12 tires 5;part charm 12 tires 5;knife 1 at 2;");
         DUE.is("dies", y.dies(0), 3);
         DUE.is("dies not", y.dies(1), -1);
+        UncutTale aired = Due.told("tale years 1 law 0 odds 0;part charm 12 tires 0 stiff 5;");
+        aired.air(0, 0);
+        DUE.is("best in the last YEAR", aired.best(0), 12);
         DUE.is("in the last YEAR", Due.told("tale years 3 law 0 odds 0;part charm 12 tires 5;").dies(0), 3);
     }
 
@@ -102,6 +105,10 @@ public final class YearsTest {
         DUE.is("next of none", z.next(2), -1);
         DUE.is("stalest of none", z.stalest(2), -1);
         DUE.is("dull of none", z.dull(2), 0);
+        UncutTale w = Due.told("tale years 2 law 0 odds 0;part charm 1 tires 1;part charm 9 tires 1;part charm 2 tires 1;");
+        DUE.is("dull", w.dull(0), 0);
+        DUE.is("dull", w.dull(1), 1);
+        DUE.is("dull", w.dull(2), 5);
     }
 
     private static void whole() {
@@ -169,6 +176,13 @@ public final class YearsTest {
         DUE.is("all", z.all(), 14);
         DUE.is("cut", z.cut(1), 1);
         DUE.is("cut", z.cut(0), 0);
+        UncutTale one = Due.told("tale years 1 law 0 odds 0;part charm 7 tires 1;knife 0 at 0;");
+        DUE.is("done in the last YEAR", one.done(), 1);
+        DUE.is("rush of YEAR 0", one.rush(), 1);
+        DUE.is("first is YEAR 0", one.first(), 0);
+        DUE.is("none is quiet", one.quiet(), 0);
+        DUE.is("nothing is left", one.charms(), 0);
+        DUE.is("twelve years", Due.told("tale years 12 law 0 odds 0;part charm 7 tires 0;knife 0 at 11;").open(12), 1);
         DUE.is("the last YEAR has no knives",
             Due.told("tale years 1 law 0 odds 0;part charm 7 tires 1;knife 0 at 1;").all(), 0);
     }
