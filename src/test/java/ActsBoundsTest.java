@@ -13,6 +13,7 @@ public final class ActsBoundsTest {
         promise72Back();
         imagesWithoutTale();
         answersAfterAChange();
+        smallerBehindLarger();
         DUE.end();
     }
 
@@ -279,5 +280,59 @@ public final class ActsBoundsTest {
         DUE.is("43: plan", x.plan(2), plan);
         DUE.is("62: above", x.mean(0), above);
         DUE.is("62: below", x.mean(1), below);
+    }
+
+    /** Nothing of a larger TALE is left over in a smaller one: it answers as on a new object. */
+    private static void smallerBehindLarger() {
+        String large = "tale years 12 law 2 odds 9;part charm 60 tires 9 stiff 60;part charm 60 tires 9 stiff 9;"
+            + "part charm 60 tires 9 stiff 9;part charm 60 tires 9 stiff 9;part charm 60 tires 9 stiff 9;part charm 60 tires 9 stiff 9;"
+            + "fold 0 1;fold 1 2;fold 2 3;fold 3 4;fold 4 5;fold 5 0;fold 0 2;fold 0 3;fold 1 3;fold 1 4;"
+            + "knife 0 at 0;knife 1 at 1;knife 2 at 2;knife 3 at 3;knife 4 at 4;knife 5 at 5;knife 0 at 1;knife 0 at 2;";
+        String[] small = {"tale years 1 law 0 odds 0;", "tale years 1 law 0 odds 1;part charm 3 tires 1;",
+            "tale years 2 law 1 odds 5;part charm 3 tires 1;part charm 4 tires 1;fold 0 1;knife 1 at 1;",
+            "tale years 5 law 3 odds 5;part charm 3 tires 1;part charm 4 tires 1;part charm 5 tires 2 stiff 3;fold 2 1;knife 0 at 4;"};
+        for (String text : small) {
+            UncutTale x = Due.told(large);
+            for (int i = 0; i < 20; i++) {
+                if (i % 2 == 0) {
+                    x.air(i % 6, i % 12);
+                } else {
+                    x.knife(i % 6, i % 12);
+                }
+            }
+            answers(x);
+            x.image(0);
+            Due.put(x, text);
+            x.tale();
+            String fresh = answers(Due.told(text));
+            DUE.is("4: as on a new object: " + text, answers(x).equals(fresh) ? 1 : 0, 1);
+            x.image(1);
+            x.back(0);
+            answers(x);
+            x.back(1);
+            DUE.is("72: as on a new object: " + text, answers(x).equals(fresh) ? 1 : 0, 1);
+        }
+    }
+
+    private static String answers(UncutTale x) {
+        StringBuilder b = new StringBuilder();
+        long[] whole = {x.all(), x.sharp(), x.uncut(), x.done(), x.rush(), x.charms(), x.peak(), x.first(), x.quiet(), x.pieces(),
+            x.lost(), x.idle(), x.few(), x.fews(), x.law(), x.blunt(), x.slit(), x.uncle(), x.opens(), x.mean(0), x.mean(1)};
+        for (long answer : whole) {
+            b.append(answer).append(' ');
+        }
+        for (int n = 0; n <= 13; n++) {
+            long[] some = {x.open(n), x.reads(n), x.waits(n), x.next(n), x.dull(n), x.cut(n), x.lone(n), x.stalest(n), x.plan(n),
+                x.planned(n, 0), x.plans(n), x.by(n), x.worth(n), x.drawn(n, 0), x.drawn(n, 1), x.near(n), x.when(n), x.how(n), x.read(n),
+                x.dies(n), x.ages(n), x.with(n), x.best(n), x.knives(n), x.share(n, 0), x.share(n, 1), x.replies(n), x.rests(n, 0),
+                x.gets(0, n, 1, 1), x.chance(n, 0), x.chance(n, 1), x.luck(n, 9, 0)};
+            for (long answer : some) {
+                b.append(answer).append(' ');
+            }
+            for (int p = 0; p < 6; p++) {
+                b.append(x.stiff(p, n)).append(' ').append(x.keeps(p, n)).append(' ').append(x.far(p, n)).append(' ');
+            }
+        }
+        return b.toString();
     }
 }

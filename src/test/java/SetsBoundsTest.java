@@ -466,6 +466,7 @@ public final class SetsBoundsTest {
         }
         // 0 opens 1 to 4 with it, for 0; then 5 is left
         uncle("nothing for nothing", least, 0, 0);
+        uncle("the second PART", told(2, 0, ZERO + "part charm 9 tires 0;" + ZERO), 9, 1);
         UncutTale last6 = told(2, 0, "part charm 1 tires 0;part charm 2 tires 0;part charm 3 tires 0;part charm 4 tires 0;"
             + "part charm 5 tires 0;part charm 6 tires 0;");
         uncle("the last PART", last6, 6 - 5, 5);

@@ -341,6 +341,7 @@ public final class TextBoundsTest {
         DUE.is("8: by five, the other way", row.far(2, 3), 5);
         DUE.is("8: it is the same", row.far(5, 5), 0);
         DUE.is("35: by a long way", row.pieces(), 1);
+        DUE.is("35: by the longest way", Due.told(HEAD + SIX + "fold 0 5;fold 5 1;fold 1 4;fold 4 2;fold 2 3;").pieces(), 1);
         DUE.is("35: each alone", Due.told(HEAD + SIX).pieces(), 6);
         DUE.is("35: one fold less", Due.told(HEAD + SIX + "fold 4 5;").pieces(), 5);
         UncutTale ring = Due.told(HEAD + SIX + "fold 0 1;fold 1 2;fold 2 3;fold 3 4;fold 4 5;fold 5 0;");
