@@ -466,6 +466,16 @@ public final class SetsBoundsTest {
         }
         // 0 opens 1 to 4 with it, for 0; then 5 is left
         uncle("nothing for nothing", least, 0, 0);
+        // a ring of four, for 40 each in YEAR 1 alone: whichever he opens, the EAR opens the one across, and so all
+        String forty = "part charm 40 tires 0 stiff 40;";
+        UncutTale ring = told(2, 0, forty + forty + forty + forty + "fold 0 1;fold 1 2;fold 2 3;fold 3 0;");
+        for (int i = 0; i < 16; i++) {
+            ring.air(i % 4, 1);
+        }
+        uncle("he must, too, however ill it is for him", ring, -120, 0);
+        for (int part = 0; part < 4; part++) {
+            DUE.is("58: the one across", ring.replies(part), (part + 2) % 4);
+        }
         uncle("the second PART", told(2, 0, ZERO + "part charm 9 tires 0;" + ZERO), 9, 1);
         UncutTale last6 = told(2, 0, "part charm 1 tires 0;part charm 2 tires 0;part charm 3 tires 0;part charm 4 tires 0;"
             + "part charm 5 tires 0;part charm 6 tires 0;");

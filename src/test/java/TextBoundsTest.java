@@ -171,6 +171,21 @@ public final class TextBoundsTest {
                 faultAt(HEAD + "part charm 1 tires" + sign + " 1;", 1, HEAD.length() + (letter ? 13 : digit ? 20 : 18));
             }
         }
+        String unended = HEAD.substring(0, HEAD.length() - 1);
+        for (int c = 0; c < 256; c++) {
+            char sign = (char) c;
+            boolean blank = sign == ' ' || sign == '\n';
+            if (sign == ';') {
+                lines(unended + sign, 1);
+                lines(HEAD + ONE.substring(0, 20) + sign, 2);
+            } else {
+                // no other sign ends a LINE; a digit makes 7 into 70 to 79 and 1 into 10 to 19, which are out of bounds
+                boolean digit = sign >= '0' && sign <= '9';
+                faultAt(unended + sign, digit ? 2 : 1, digit ? 24 : blank ? 26 : 25);
+                faultAt(HEAD + ONE.substring(0, 20) + sign, digit ? 2 : 1, digit ? 45 : blank ? 47 : 46);
+                faultAt(unended + " " + sign + HEAD, 1, blank ? 27 : 26);
+            }
+        }
         lines("tale\nyears\n4\nlaw\n2\nodds\n7\n;\n", 1);
         lines("  tale  years4law2odds7  ;part charm0tires0;", 2);
         fault("^taleyears 4 law 2 odds 7;", 1);

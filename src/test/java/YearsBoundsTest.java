@@ -425,6 +425,12 @@ public final class YearsBoundsTest {
         for (int year = 0; year < 3; year++) {
             DUE.is("33: what is lone opened of itself; one without NEIGHBOURS is not", x.lone(year), 0);
         }
+        UncutTale half = told(2, 0, "part charm 9 tires 0;part charm 9 tires 0;part charm 9 tires 0;fold 0 1;fold 0 2;knife 2 at 0;");
+        DUE.is("33: one NEIGHBOUR is shut", half.lone(1), 0);
+        half.knife(1, 1);
+        DUE.is("33: none is shut", half.lone(2), 0);
+        UncutTale other = told(2, 0, "part charm 9 tires 0;part charm 9 tires 0;part charm 9 tires 0;fold 0 1;fold 0 2;knife 1 at 0;");
+        DUE.is("33: one NEIGHBOUR is shut", other.lone(1), 0);
         DUE.is("34: all are 0 STIFF", x.stalest(0), 0);
         DUE.is("34: an open one is none", x.stalest(1), 2);
         UncutTale y = told(3, 0, "part charm 9 tires 0 stiff 60;part charm 9 tires 5;part charm 9 tires 5;knife 0 at 1;");
